@@ -8,7 +8,7 @@ import java.util.TreeMap;
 
 /** Runs of calls, drawn by fixed seeds, on a TimeStore and on a SlowStore: both must answer alike. */
 final class ModelTest {
-    private static final int RUNS = 600;
+    private static final int RUNS = 300;
     private static final int CALLS = 500;
 
     // How often a method is drawn, its name, and a sign for each argument (see draw).
