@@ -1259,7 +1259,7 @@ public final class TimeStore {
             int high = size;
             for (int step = 0; low < high && step < 32; step++) {
                 int middle = (low + high) / 2;
-                if (at(middle) < least) {
+                if (row[middle] < least) {
                     low = middle + 1;
                 } else {
                     high = middle;

@@ -210,6 +210,13 @@ final class BookTest {
         x.end(0, 0, 10);
         x.tick(1, 2);
         x.takeBack(1, 0, 10);
+        // Asked first of all, and again of more words.
+        Check.due(54, x.joinedRead(0, 20, 999, true), 3);
+        x.tell(0, 1, 30, 5);
+        Check.due(54, x.joinedRead(1, 30, 999, false), 5);
+        x.tell(1, 1, 30, 6);
+        Check.due(54, x.joinedRead(1, 30, 3, true), 6);
+        Check.due(54, x.joinedRead(1, 30, 999, true), 5);
         long before = x.digest();
         for (boolean isOtherFirst : new boolean[] {false, true}) {
             Check.due(54, x.joinedRead(0, 10, 0, isOtherFirst), 1);
@@ -252,6 +259,7 @@ final class BookTest {
         x.tell(1, 0, 6, 2);
         x.forget(1, 1);
         // The book has one word that its store forgot.
+        Check.due(55, x.joinedWords(2), 4);
         Check.due(55, x.joinedWords(0), 3);
         Check.due(55, x.joinedWords(1), 4);
         Check.due(55, x.joinedWords(2), 4);

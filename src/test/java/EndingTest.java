@@ -199,6 +199,8 @@ final class EndingTest {
             x.endAt(1, key, 999 - key);
         }
         Check.due(38, x.ending(1, 0), 39);
+        Check.index(38, x, () -> x.ending(2, 0));
+        Check.index(38, x, () -> x.ending(-1, 0));
         Check.due(38, x.ending(1, 39), 0);
         Check.due(36, x.nextEnding(1), 960);
     }
@@ -312,6 +314,9 @@ final class EndingTest {
         Check.due(10, z.line(1, 0, 6), "7:x");
         Check.due(10, z.word(1, 0, 7, 0, 0), 6);
         Check.due(10, z.words(1, 39, 7), 0);
+        z.watch(0, 1, 3);
+        Check.due(10, z.tell(1, 3, 8, 4), 2);
+        Check.due(10, z.line(0, 3, 0), "8:4");
     }
 
     private static void kindThree() {

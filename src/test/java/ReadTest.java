@@ -162,6 +162,7 @@ final class ReadTest {
         Check.due(31, x.differ(0, 6, 0, 9), 0);
         x.tell(0, 7, 0, 1);
         Check.due(31, x.differ(0, 7, 8, 9), 1000);
+        Check.due(31, x.differ(0, 6, 0, 9), 0);
         x.tell(0, 8, 999, 1);
         Check.due(31, x.differ(0, 8, 9, 8), 1);
         Check.state(31, x, () -> x.differ(0, 5, 9, 10));
@@ -260,6 +261,18 @@ final class ReadTest {
         Check.index(35, x, () -> x.word(0, -1, 20, 0, 0));
         Check.argument(35, x, () -> x.word(0, 5, 20, 0, -1));
         Check.argument(35, x, () -> x.word(0, 5, 20, 0, 2));
+        x.tell(0, 5, 19, 7);
+        x.tell(0, 5, 21, 8);
+        x.tell(0, 5, 0, 6);
+        x.tell(1, 5, 20, 9);
+        Check.due(34, x.words(0, 5, 20), 3);
+        Check.due(34, x.words(0, 5, 19), 1);
+        Check.due(35, x.word(0, 5, 19, 0, 1), 7);
+        Check.due(35, x.word(0, 5, 0, 0, 1), 6);
+        Check.index(35, x, () -> x.word(0, 5, 19, 1, 1));
+        Check.index(35, x, () -> x.word(2, 5, 20, 0, 0));
+        Check.index(49, x, () -> x.entry(2, 0, 0));
+        Check.index(49, x, () -> x.entry(-1, 0, 0));
         x.forget(0, 4);
         Check.due(34, x.words(0, 5, 20), 2);
         Check.due(35, x.word(0, 5, 20, 0, 0), 4);

@@ -63,6 +63,20 @@ final class SoundTest {
         set(of(x, "zero"), "journalSize", 3);
         unsound(x);
         x = sound();
+        // Two words that no reading at the clock or the horizon, and no order, would tell apart.
+        x = new TimeStore();
+        for (int value = 1; value <= 2; value++) {
+            x.tick(0, 1);
+            x.tell(0, 0, 10, value);
+        }
+        ((long[]) of(of(x, "zero"), "journal"))[0]++;
+        unsound(x);
+        // One word twice, and so another one not at all: rebuilt it is missing.
+        x = sound();
+        journal = (long[]) of(of(x, "zero"), "journal");
+        journal[1] = journal[0];
+        unsound(x);
+        x = sound();
         // A word about another key, told first: the place is right, the store has another one.
         ((long[]) of(of(x, "one"), "journal"))[0] += 1L << 28;
         unsound(x);

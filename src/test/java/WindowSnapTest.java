@@ -180,10 +180,14 @@ final class WindowSnapTest {
         Check.due(44, x.windowRead(0, 21, 2), -1);
         Check.due(44, x.windowRead(0, 999, 2), -1);
         x.window(0, 3, 15, 30);
+        x.window(0, 3, 10, 10);
+        Check.due(44, x.windowRead(2, 9, 2), -1);
+        Check.due(44, x.windowRead(2, 10, 2), 1);
+        Check.due(44, x.windowRead(2, 999, 2), 1);
         Check.due(44, x.windowRead(1, 30, 2), 3);
         Check.due(44, x.windowRead(1, 29, 2), -1);
         x.forget(0, 1);
-        Check.index(44, x, () -> x.windowRead(2, -1, 0));
+        Check.index(44, x, () -> x.windowRead(3, -1, 0));
         Check.index(44, x, () -> x.windowRead(-1, 0, 0));
         Check.argument(44, x, () -> x.windowRead(0, -1, 1));
         Check.argument(44, x, () -> x.windowRead(0, 1000, 0));
