@@ -414,7 +414,7 @@ final class BookTest {
         }
     }
 
-    /** As many words in the book as some hundred calls bring. */
+    /** As many words in the book as the 512 calls on one object bring. */
     private static void manyGathered() {
         TimeStore x = new TimeStore();
         x.watcher(2, 0);
@@ -428,7 +428,7 @@ final class BookTest {
             }
         }
         int words = 0;
-        for (int minute = 0; minute < 70; minute++) {
+        for (int minute = 0; minute < 40; minute++) {
             x.tell(0, 0, 0, minute % 100);
             words += x.gather(0) + x.gather(1);
             Check.due(22, x.ofBook(0), words);
@@ -437,12 +437,12 @@ final class BookTest {
             x.forget(0, minute + 1);
             x.forget(1, minute + 1);
         }
-        Check.due(22, words, 70 * 24);
-        for (int minute = 0; minute < 70; minute++) {
+        Check.due(22, words, 40 * 24);
+        for (int minute = 0; minute < 40; minute++) {
             Check.due(51, x.bookRead(11, 0, minute), minute);
             Check.due(52, x.bookBy(11, 0, minute), 1);
         }
-        Check.due(53, x.ofBook(2), 70 * 12);
+        Check.due(53, x.ofBook(2), 40 * 12);
         Check.due(55, x.joinedWords(1), words);
         Check.due(55, x.joinedWords(2), words);
         Check.due(60, x.isSound(), true);

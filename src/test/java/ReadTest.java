@@ -319,12 +319,13 @@ final class ReadTest {
     }
 
     private static void rebuiltRead() {
-        TimeStore x = told();
         for (int minute = 0; minute < 40; minute++) {
+            TimeStore told = told();
             for (int known = 0; known < 10; known++) {
-                Check.due(50, x.rebuiltRead(0, 5, minute, known), x.read(0, 5, minute, known));
+                Check.due(50, told.rebuiltRead(0, 5, minute, known), told.read(0, 5, minute, known));
             }
         }
+        TimeStore x = told();
         Check.due(50, x.rebuiltRead(0, 5, 25, 3), 2);
         Check.due(50, x.rebuiltRead(0, 5, 25, 4), -1);
         Check.due(50, x.rebuiltRead(0, 5, 25, 8), 1);

@@ -1,28 +1,46 @@
 import com.sun.management.ThreadMXBean;
 import java.lang.management.ManagementFactory;
 
-/** LANGUAGE.md, rule 12: what 512 calls make is little, whichever call it is. */
+/** LANGUAGE.md, rule 12: what the calls on one object make is little, whichever call it is. */
 final class RoomTest {
     private static final ThreadMXBean BEAN = (ThreadMXBean) ManagementFactory.getThreadMXBean();
+    // Behind those that made the scene, and twice as many, no object has more than 512 calls.
+    private static final int CALLS = 120;
+
+    interface Asked {
+        void ask(TimeStore x);
+    }
 
     public static void main(String[] args) {
+        made();
+        spent("digest", 20_000, TimeStore::digest);
+        spent("isSound", 20_000, TimeStore::isSound);
+        spent("joinedWords", 20_000, x -> x.joinedWords(2));
+        spent("rebuiltRead", 20_000, x -> x.rebuiltRead(0, 0, 999, 10));
+        spent("snap", 20_000, x -> x.drop(x.snap(0, 10)));
+        spent("window", 20_000, x -> x.shut(x.window(0, 0, 0, 10)));
+        spent("lasts", 20_000, x -> x.lasts(0, 0, 10, 1));
+        spent("gather", 20_000, x -> x.gather(0));
+        spent("line", 100_000, x -> x.line(0, 0, 10));
+        longestLine();
+        Check.finish();
+    }
+
+    private static void made() {
+        new TimeStore();
+        long before = BEAN.getThreadAllocatedBytes(Thread.currentThread().getId());
+        new TimeStore();
+        held("new", BEAN.getThreadAllocatedBytes(Thread.currentThread().getId()) - before, 100_000);
+    }
+
+    /** A text of 120 periods each time: 512 of these are 4 million bytes at most. */
+    private static void longestLine() {
         TimeStore x = new TimeStore();
-        TimeStore y = crowded();
-        spent("new", 1, 100_000, TimeStore::new);
-        spent("digest", 512, 100_000, y::digest);
-        spent("isSound", 512, 100_000, y::isSound);
-        spent("joinedWords", 512, 100_000, () -> y.joinedWords(2));
-        spent("rebuiltRead", 512, 100_000, () -> y.rebuiltRead(0, 0, 999, 10));
-        spent("snap", 512, 100_000, () -> y.drop(y.snap(0, 10)));
-        spent("window", 512, 100_000, () -> y.shut(y.window(0, 0, 0, 10)));
-        spent("lasts", 512, 100_000, () -> y.lasts(0, 0, 10, 1));
-        // A text of 120 periods each time.
         for (int period = 880; period < 1000; period++) {
             x.tell(0, 0, period, 99);
         }
         Check.due(29, x.line(0, 0, 0).length(), 120 * 7 - 1);
-        spent("line", 512, 4_000_000, () -> x.line(0, 0, 0));
-        Check.finish();
+        held("the longest line", bytes(x, y -> y.line(0, 0, 0)), 4_000_000 * CALLS / Calls.MOST);
     }
 
     private static TimeStore crowded() {
@@ -45,14 +63,21 @@ final class RoomTest {
         return x;
     }
 
-    private static void spent(String name, int calls, long most, Check.Call call) {
+    private static void spent(String name, long most, Asked call) {
+        held(name, bytes(crowded(), call), most);
+    }
+
+    private static long bytes(TimeStore x, Asked call) {
         // Once ahead of it, so that rows which grow at first are not counted.
-        call.run();
+        call.ask(x);
         long before = BEAN.getThreadAllocatedBytes(Thread.currentThread().getId());
-        for (int number = 0; number < calls; number++) {
-            call.run();
+        for (int number = 0; number < CALLS; number++) {
+            call.ask(x);
         }
-        long bytes = BEAN.getThreadAllocatedBytes(Thread.currentThread().getId()) - before;
+        return BEAN.getThreadAllocatedBytes(Thread.currentThread().getId()) - before;
+    }
+
+    private static void held(String name, long bytes, long most) {
         Check.due(61, bytes <= most ? name : name + " made " + bytes + " bytes", name);
     }
 }
