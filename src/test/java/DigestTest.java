@@ -22,6 +22,11 @@ final class DigestTest {
         "tell 0 5 10 1; gather 0; tick 0 1; takeBack 0 5 10; tell 1 5 10 3; gather 1; forget 0 1; tell 0 39 0 0",
         "fill 0 118; watcher 1 5; watcher 2 0; watch 0 0 0; watch 1 0 0; tell 0 0 5 9; tell 0 0 6 9; gather 0",
         "ticks 0 999; ticks 1 998; tell 0 0 999 99; tell 1 0 999 98; endAt 1 0 999; snap 0 0; snap 0 999; forget 0 500",
+        "tell 0 5 999 1; tell 0 5 998 2; tell 1 6 999 3; window 0 5 0 999; window 0 5 0 998; window 1 6 999 999; "
+            + "snap 0 0; snap 1 0; gather 0; gather 1",
+        "tell 0 5 10 1; tick 0 1; tell 0 5 10 2; gather 0; tick 0 1; tell 0 5 10 3; forget 0 1; tell 1 5 10 4",
+        "tell 0 5 9 9; tell 0 5 10 10; tell 0 5 99 99; tell 0 5 100 0; tell 1 7 0 0; end 1 7 101",
+        "ticks 0 999; tell 0 7 0 5; ticks 1 998; tell 1 7 0 6; gather 0; gather 1",
         "tick 0 5; tell 0 5 0 1; tick 0 5; tell 0 5 0 2; tick 0 5; end 0 5 3; forget 0 7; tick 0 1; takeBack 0 5 0",
     };
 

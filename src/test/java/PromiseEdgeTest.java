@@ -8,7 +8,7 @@ final class PromiseEdgeTest {
         Rows.check(ENDING_AND_LISTENING);
         Rows.check(WINDOWS_AND_SNAPSHOTS);
         Rows.check(FORGETTING_AND_BOOK);
-        Rows.check(READING);
+        Rows.check(READING.replace("TURNS", TURNS));
         Rows.check(WORDS);
         Rows.check(LISTENERS);
         Rows.check(PANES);
@@ -228,6 +228,10 @@ final class PromiseEdgeTest {
         knock = 511
         """;
 
+    /** 120 WORDS about one KEY and PERIOD, at 120 MINUTES from 1 on, that say 1, ENDED, 1, ENDED .. and at last 2. */
+    private static final String TURNS = "tick 0 1; " + "tell 0 5 10 1; tick 0 1; end 0 5 10; tick 0 1; ".repeat(59)
+            + "tell 0 5 10 1; tick 0 1; tell 0 5 10 2";
+
     private static final String READING = """
         # 26 the ANSWER at the CLOCK, known at the CLOCK
         readNow 0 0 = -1
@@ -265,6 +269,7 @@ final class PromiseEdgeTest {
         # 31 at how many of the 1000 MINUTES the ANSWERS are unlike; both must be KNOWN
         : tell 0 6 5 5; tick 0 2; tell 0 5 0 1; tell 0 6 999 1; tell 0 7 998 1; tick 0 1; forget 0 1
         differ 0 5 1 2 = 1000; differ 0 5 2 1 = 1000; differ 0 5 2 3 = 0; differ 0 5 1 1 = 0; differ 0 6 1 3 = 1; differ 0 7 3 1 = 2; differ 0 4 1 3 = 0
+        tell 0 5 3 2; tell 0 5 7 1; tell 0 4 9 8; tick 0 1; tell 0 4 0 8; differ 0 5 2 4 = 4; differ 0 5 4 2 = 4; differ 0 4 3 4 = 9
         differ 0 5 0 3 = state
         differ 0 5 3 0 = state
         differ 0 5 4 3 = state
@@ -281,6 +286,12 @@ final class PromiseEdgeTest {
         forget 0 3; changes 0 5 0 = 0; tell 0 5 0 3; changes 0 5 0 = 1; forget 0 4; changes 0 5 0 = 0
         : tell 0 5 500 1; tick 0 1; tell 0 5 499 1; tick 0 1; takeBack 0 5 499
         changes 0 5 498 = 0; changes 0 5 499 = 2; changes 0 5 500 = 0
+
+        # 32 all 120 WORDS about one KEY and PERIOD may each change the ANSWER, and the last one of them
+        : TURNS
+        changes 0 5 10 = 120; changes 0 5 9 = 0; firstKnown 0 5 10 2 = 120; firstKnown 0 5 10 1 = 1; firstKnown 0 5 10 -1 = 0
+        forget 0 1; changes 0 5 10 = 119; firstKnown 0 5 10 2 = 120; firstKnown 0 5 10 -1 = 2; firstKnown 0 5 10 1 = 1
+        lasts 0 5 120 2 = 990; differ 0 5 119 120 = 990; words 0 5 10 = 120; word 0 5 10 119 0 = 120; word 0 5 10 120 0 = index
 
         # 33 the least KNOWN MINUTE so that this is the ANSWER, known then; NONE if there is none
         firstKnown 0 0 0 -1 = 0; firstKnown 0 0 999 0 = -1; firstKnown 0 0 0 99 = -1
@@ -305,6 +316,10 @@ final class PromiseEdgeTest {
         word 0 5 10 3 0 = index; word 0 5 10 -1 0 = index; word 0 5 9 0 0 = index; word 0 5 999 1 0 = index; word 1 5 10 0 0 = index
         word 0 5 1000 0 0 = index; word 0 5 -1 0 0 = index; word 0 5 10 3 2 = index; word 0 5 10 2 2 = argument; word 0 5 10 2 -1 = argument
         forget 0 3; word 0 5 10 0 0 = 3; word 0 5 10 1 1 = -2; word 0 5 10 2 0 = index
+        # 35 a PERIOD that is no MINUTE has no WORD, whatever lies about the KEYS beside it
+        : tell 0 4 999 1; tell 0 5 0 2; tell 0 5 999 3; tell 0 6 0 4
+        word 0 5 -1 0 0 = index; word 0 5 1000 0 0 = index; word 0 5 -1 0 1 = index; word 0 5 1024 0 1 = index; word 0 5 -1024 0 1 = index
+        word 0 5 2147483647 0 0 = index; word 0 5 -2147483648 0 0 = index; word 0 5 0 2147483647 0 = index; word 0 5 0 -2147483648 0 = index
         """;
 
     private static final String LISTENERS = """
@@ -404,6 +419,10 @@ final class PromiseEdgeTest {
         tell 0 5 0 9; rebuiltRead 0 5 9 4 = 9; rebuiltRead 0 5 10 4 = 9; rebuiltRead 0 5 10 3 = -1; rebuiltRead 0 5 9 3 = -1
         : fill 0 120
         rebuiltRead 0 39 2 0 = 1; rebuiltRead 0 39 999 0 = 1; rebuiltRead 1 39 999 0 = -1
+        # 50 what is REBUILT has nothing of what was joined, REBUILT or gathered ahead of it
+        : tell 1 0 0 9; tell 0 0 5 1; tick 0 1; tell 0 0 3 2
+        joinedRead 0 0 0 false = 9; rebuiltRead 0 0 4 0 = -1; rebuiltRead 0 0 5 0 = 1; rebuiltRead 0 0 4 1 = 2; rebuiltRead 0 0 4 0 = -1
+        rebuiltRead 0 0 4 1 = 2; joinedRead 0 4 0 true = 9; rebuiltRead 1 0 999 0 = 9; joinedRead 0 999 1 false = 1; rebuiltRead 0 0 2 1 = -1
 
         # 51 the ANSWER of the BOOK, known at any MINUTE; 52: NONE if there is no SPOT
         bookRead 0 999 999 = -1; bookBy 0 999 999 = -1
@@ -426,6 +445,10 @@ final class PromiseEdgeTest {
         joinedWords 0 = 0; joinedWords 1 = 0; joinedWords 2 = 0; joinedWords 3 = argument; joinedWords -1 = argument
         : tell 0 0 0 1; gather 0
         joinedWords 0 = 1; joinedWords 1 = 1; joinedWords 2 = 1; tell 1 0 0 1; joinedWords 0 = 2; joinedWords 1 = 2; joinedWords 2 = 2
+        joinedWords 2 = 1; joinedWords 0 = 1; joinedWords 1 = 1
+        tell 1 0 0 1; joinedWords 2 = 2; tell 1 0 1 1; joinedWords 1 = 3; tell 0 0 1 1; joinedWords 0 = 4
+        : tell 0 0 0 1; tick 0 1; gather 0; tell 0 0 0 2; tell 1 0 0 3; forget 0 1
+        joinedWords 2 = 3; joinedWords 0 = 2; joinedWords 1 = 3; joinedWords 0 = 2
         """;
 
     private static final String ALL = """

@@ -66,6 +66,19 @@ final class SectionEdgeTest {
         takeBack 0 5 10; tick 0 1; takeBack 0 5 10 = state; tell 0 5 10 3 = 1; takeBack 0 5 10 = state
         takeBack 0 5 10; tick 0 1; end 0 5 10 = 1; tick 0 1; takeBack 0 5 10 = 1
 
+        # 25 1: the least KEY, PERIOD, MINUTE and VALUE, and the greatest ones, as the only WORD
+        : tell 0 0 0 0
+        read 0 0 0 0 = 0; line 0 0 0 = "0:0"; bound 0 0 0 false = 0; bound 0 0 0 true = 0; spotOf 0 0 0 0 0 = 0; spotOf 0 0 0 0 2 = 1000
+        wouldForget 0 0 = 0; forget 0 0 = 0; words 0 0 0 = 1; rebuiltRead 0 0 0 0 = 0; joinedRead 0 0 0 true = 0
+        gather 0 = 1; bookRead 0 0 0 = 0; bookBy 0 0 0 = 0; ofBook 1 = 1; gather 0 = 0; joinedWords 0 = 1; joinedWords 1 = 1; joinedWords 2 = 1
+        window 0 0 0 0 = 0; ofWindow 0 4 = 1; windowRead 0 0 0 = 0; snap 0 0 = 0; ofSnap 0 4 = 1; snapRead 0 0 0 = 0; snapNext 0 = 0; isSound = true
+        tick 0 1; takeBack 0 0 0; read 0 0 0 1 = -1; forget 0 1 = 1; line 0 0 1 = ""; ofStore 0 2 = 1; isSound = true
+        : ticks 1 999; tell 1 39 999 99
+        read 1 39 999 999 = 99; read 1 39 998 999 = -1; read 1 39 999 998 = -1; line 1 39 999 = "999:99"; bound 1 39 999 true = 999; spotOf 1 39 999 999 2 = 1000
+        wouldForget 1 999 = 0; forget 1 999 = 0; words 1 39 999 = 1; rebuiltRead 1 39 999 999 = 99; joinedRead 39 999 999 false = 99; joinedRead 39 999 998 false = -1
+        gather 1 = 1; bookRead 39 999 999 = 99; bookRead 39 999 998 = -1; bookBy 39 999 999 = 1; ofBook 3 = 1; joinedWords 2 = 1
+        window 1 39 999 999 = 0; ofWindow 0 4 = 1; windowRead 0 999 999 = 99; snap 1 999 = 0; snapRead 0 39 999 = 99; snapNext 0 = 39; isSound = true
+
         # 27 1: the LATEST, known at a MINUTE: told not BEHIND that MINUTE, which was told last
         : tick 0 3; tell 0 5 10 1; tick 0 3; tell 0 5 10 2; tick 0 3
         spotOf 0 5 10 2 1 = -1; spotOf 0 5 10 3 1 = 3; spotOf 0 5 10 5 1 = 3; spotOf 0 5 10 6 1 = 6
