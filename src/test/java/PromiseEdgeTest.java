@@ -301,6 +301,9 @@ final class PromiseEdgeTest {
         firstKnown 0 5 10 -1 = 0; firstKnown 0 5 10 1 = 1; firstKnown 0 5 10 99 = 3; firstKnown 0 5 9 1 = -1; firstKnown 0 5 9 -1 = 0
         forget 0 2; firstKnown 0 5 10 -1 = 2; firstKnown 0 5 10 1 = -1; firstKnown 0 5 9 -1 = 2
         tick 0 5; forget 0 7; firstKnown 0 5 10 99 = 7; firstKnown 0 5 10 -1 = -1
+        # 33 WORDS told AHEAD of the HORIZON may lie there still, but no MINUTE AHEAD of it is KNOWN
+        : tell 0 5 10 1; tick 0 2; tell 0 5 20 2; tick 0 3; forget 0 5
+        firstKnown 0 5 25 1 = -1; firstKnown 0 5 25 -1 = -1; firstKnown 0 5 25 2 = 5; firstKnown 0 5 15 1 = 5; changes 0 5 25 = 0
         """;
 
     private static final String WORDS = """
@@ -492,5 +495,19 @@ final class PromiseEdgeTest {
         isSound = true; tick 1 1; isSound = true; takeBack 0 5 999 = state; forget 0 999; isSound = true
         : tell 0 5 10 1; tick 0 2; tell 0 5 10 2; snap 0 1; snap 0 0; snap 0 2; tell 0 5 9 3
         isSound = true; forget 0 1; isSound = true; forget 0 2; isSound = true; emptyBook; isSound = true
+        # 60 what the BOOK has and the STORES do not, and what lies beside that which is asked of, is no fault
+        : tell 0 5 10 1; gather 0; tick 0 1; tell 0 5 10 2; forget 0 1
+        isSound = true; tell 1 5 10 3; isSound = true; gather 1; isSound = true
+        : tell 0 0 5 1; tell 0 0 6 2; tick 0 1; takeBack 0 0 6; tell 0 1 5 2
+        isSound = true; tell 0 1 6 3; tell 0 2 0 4; isSound = true; tick 0 1; forget 0 1; isSound = true
+        : tell 0 0 5 1; tick 0 1; tell 0 1 5 2
+        isSound = true; tell 1 1 5 2; isSound = true
+        : tell 0 4 10 1; tell 0 5 10 1; tell 0 5 20 1; tick 0 1; tell 0 5 10 2; tell 0 6 10 1; tell 1 5 10 1; window 0 5 5 15; window 0 5 0 999
+        isSound = true; window 0 5 11 19; window 1 5 10 10; isSound = true; shut 0; isSound = true; 3x shut 0; isSound = true
+        # 60 a WINDOW that is shut and a SNAPSHOT that is dropped are not asked of any more
+        : tell 0 5 10 1; tick 0 1; window 0 5 0 999; snap 0 0; shut 0; drop 0; tick 0 1; tell 0 5 20 1; tell 1 5 0 1
+        isSound = true; window 1 5 0 0; snap 1 0; isSound = true
+        : ticks 0 5; 6x snap 0 4; tell 0 5 10 1; 6x window 0 5 0 999; tick 0 1; tell 0 5 11 1
+        isSound = true; snap 0 3 = state; forget 0 5; isSound = true; 6x drop 0; snap 0 5; isSound = true
         """;
 }
