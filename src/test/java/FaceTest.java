@@ -9,6 +9,7 @@ import java.nio.file.Files;
 import java.nio.file.Path;
 import java.util.ArrayList;
 import java.util.List;
+import java.util.TreeMap;
 import java.util.TreeSet;
 import java.util.regex.Matcher;
 import java.util.regex.Pattern;
@@ -85,6 +86,7 @@ final class FaceTest {
         face();
         hidden();
         text();
+        methods();
         Check.finish();
     }
 
@@ -137,10 +139,14 @@ final class FaceTest {
         Check.due(1, classes.size() <= 12, true);
     }
 
-    private static void text() throws IOException {
+    /** The class without its comments and texts, which may hold any word. */
+    private static String code() throws IOException {
         String text = Files.readString(Path.of("src/main/java/TimeStore.java"), StandardCharsets.US_ASCII);
-        // Comments and texts may hold any word.
-        String code = text.replaceAll("(?s)/\\*.*?\\*/", "").replaceAll("//.*", "").replaceAll("\"[^\"]*\"", "T");
+        return text.replaceAll("(?s)/\\*.*?\\*/", "").replaceAll("//.*", "").replaceAll("\"[^\"]*\"", "T");
+    }
+
+    private static void text() throws IOException {
+        String code = code();
         String[] forbidden = {"\\btry\\b", "\\bcatch\\b", "\\bfinally\\b", "->", "::", "Exact\\b",
             "\\bsynchronized\\b", "\\bassert\\b", "\\bpackage\\b", "\\bvar\\b", "\\bstatic \\{",
             "\\bequals\\b", "\\bhashCode\\b", "\\bfloat\\b", "\\bdouble\\b", "T \\+", "\\+ T",
@@ -150,5 +156,35 @@ final class FaceTest {
             Matcher matcher = Pattern.compile(pattern).matcher(code);
             Check.due(1, matcher.find() ? "there is " + matcher.group() : "none", "none");
         }
+    }
+
+    /** Rules 8 and 11: short methods, no recursion, and calls that go at most eight deep. */
+    private static void methods() throws IOException {
+        TreeMap<String, String> bodies = new TreeMap<>();
+        Pattern method = Pattern.compile("(?ms)^( {4}| {8})(?! )[\\w\\[\\] ]+ (\\w+)\\([^;{}]*\\{\\n.*?^\\1\\}$");
+        Matcher matcher = method.matcher(code());
+        while (matcher.find()) {
+            Check.due(1, matcher.group().lines().count() <= 60 ? "short" : matcher.group(2), "short");
+            // Methods of the same name count as one that does what all of them do.
+            String body = matcher.group().substring(matcher.group().indexOf('{'));
+            bodies.merge(matcher.group(2), body, String::concat);
+        }
+        for (Method each : TimeStore.class.getDeclaredMethods()) {
+            Check.due(1, bodies.containsKey(each.getName()) ? "found" : each.getName(), "found");
+        }
+        for (String name : bodies.keySet()) {
+            Check.due(1, depth(name, bodies, 1) <= 8 ? "at most 8 deep" : name, "at most 8 deep");
+        }
+    }
+
+    private static int depth(String name, TreeMap<String, String> bodies, int above) {
+        int deepest = 0;
+        Matcher called = Pattern.compile("(\\w+)\\(").matcher(bodies.get(name));
+        while (above <= 8 && called.find()) {
+            if (bodies.containsKey(called.group(1))) {
+                deepest = Math.max(deepest, depth(called.group(1), bodies, above + 1));
+            }
+        }
+        return above <= 8 ? deepest + 1 : 1;
     }
 }

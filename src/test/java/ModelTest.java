@@ -27,18 +27,22 @@ final class ModelTest {
         "2 wouldForget sm", "1 isSound", "2 digest",
     };
 
-    private static final List<String[]> drawn = new ArrayList<>();
+    // What is drawn so much more often in every fourth run: stores become full, and words are missed.
+    private static final String[] BUSY = {
+        "120 tell skmv", "66 tellSpan skmmv", "22 end skm", "18 takeBack skm", "24 tick st", "52 endAt skm",
+        "10 watcher Kn", "40 watch wsk",
+    };
+
+    private static final List<String[]> quiet = new ArrayList<>();
+    private static final List<String[]> busy = new ArrayList<>();
     private static final TreeMap<String, Method> fast = new TreeMap<>();
     private static final TreeMap<String, Method> slow = new TreeMap<>();
     private static final TreeMap<String, Integer> answered = new TreeMap<>();
 
     public static void main(String[] args) throws ReflectiveOperationException {
-        for (String row : FACE) {
-            String[] parts = row.split(" ");
-            for (int times = Integer.parseInt(parts[0]); times > 0; times--) {
-                drawn.add(new String[] {parts[1], parts.length > 2 ? parts[2] : ""});
-            }
-        }
+        add(FACE, quiet);
+        add(FACE, busy);
+        add(BUSY, busy);
         for (Method method : TimeStore.class.getMethods()) {
             if (method.getDeclaringClass() == TimeStore.class) {
                 fast.put(method.getName(), method);
@@ -60,6 +64,15 @@ final class ModelTest {
         Check.finish();
     }
 
+    private static void add(String[] rows, List<String[]> drawn) {
+        for (String row : rows) {
+            String[] parts = row.split(" ");
+            for (int times = Integer.parseInt(parts[0]); times > 0; times--) {
+                drawn.add(new String[] {parts[1], parts.length > 2 ? parts[2] : ""});
+            }
+        }
+    }
+
     private static void run(int seed) throws ReflectiveOperationException {
         Random random = new Random(seed);
         TimeStore x = new TimeStore();
@@ -69,6 +82,7 @@ final class ModelTest {
         int minutes = new int[] {4, 12, 60, 1000}[random.nextInt(4)];
         int steps = new int[] {2, 6, 30, 200}[random.nextInt(4)];
         boolean isWild = random.nextInt(4) == 0;
+        List<String[]> drawn = seed % 4 == 3 ? busy : quiet;
         List<String> calls = new ArrayList<>();
         for (int call = 0; call < CALLS; call++) {
             String[] what = drawn.get(random.nextInt(drawn.size()));
