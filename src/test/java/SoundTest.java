@@ -12,6 +12,7 @@ final class SoundTest {
         endings();
         words();
         snapshot();
+        book();
         Check.finish();
     }
 
@@ -123,5 +124,14 @@ final class SoundTest {
         x = sound();
         set(of(((Object[]) of(x, "snapshots"))[0], "lines"), "size", 1);
         unsound(x);
+    }
+
+    private static void book() throws ReflectiveOperationException {
+        TimeStore x = sound();
+        // A word of store 0 that says something else in the book: who goes first makes a difference then.
+        ((long[]) of(of(x, "book"), "row"))[0]++;
+        unsound(x);
+        x.emptyBook();
+        Check.due(60, x.isSound(), true);
     }
 }
